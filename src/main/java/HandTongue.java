@@ -764,10 +764,8 @@ public final class HandTongue {
         }
 
         private static int amount(int value, int[] told) {
-            if (value < NUMBERS) {
-                return value;
-            }
-            return within(value - NUMBERS, told.length) ? told[value - NUMBERS] : NONE;
+            int at = value - NUMBERS;
+            return at < 0 || at >= told.length ? value : told[at];
         }
 
         void copyFrom(Rules from) {
@@ -1019,9 +1017,9 @@ public final class HandTongue {
         static final int STATES_WORD = 316;
 
         private final int[] bytes = new int[ROOM];
-        private final int[] starts = new int[ROOM + 1];
-        private final int[] words = new int[ROOM + 1];
-        private int tokens;
+        /** Behind the last token stands the end, at the text's length. */
+        final int[] starts = new int[ROOM + 1];
+        final int[] words = new int[ROOM + 1];
         int length;
 
         boolean hasRoom() {
@@ -1036,7 +1034,7 @@ public final class HandTongue {
         }
 
         void split() {
-            tokens = 0;
+            int tokens = 0;
             for (int i = 0; i < length; i++) {
                 int kind = kindOf(bytes[i]);
                 boolean goesOn = i > 0 && kind != 0 && kind == kindOf(bytes[i - 1]);
@@ -1050,14 +1048,6 @@ public final class HandTongue {
                 words[token] = wordAt(starts[token]);
             }
             words[tokens] = FINISH;
-        }
-
-        int word(int token) {
-            return within(token, tokens) ? words[token] : FINISH;
-        }
-
-        int start(int token) {
-            return within(token, tokens) ? starts[token] : length;
         }
 
         /** 1 for letters, 2 for digits, 0 for all that stand alone. */
@@ -1118,8 +1108,7 @@ public final class HandTongue {
         /** The number of a token of digits; all above 999 are alike, for none of them is ever in range. */
         int number(int token) {
             int value = 0;
-            int from = start(token);
-            for (int i = from; i < length && kindOf(bytes[i]) == 2; i++) {
+            for (int i = starts[token]; i < length && kindOf(bytes[i]) == 2; i++) {
                 value = Math.min(Rules.NUMBERS, value * 10 + bytes[i] - '0');
             }
             return value;
@@ -1127,8 +1116,8 @@ public final class HandTongue {
 
         /** The shape that a token of just five digits 0 .. 2 tells, else NONE. */
         int bends(int token) {
-            int from = start(token);
-            if (word(token) != NUMBER || reach(from) - from != Book.FINGERS) {
+            int from = starts[token];
+            if (words[token] != NUMBER || reach(from) - from != Book.FINGERS) {
                 return NONE;
             }
             int shape = 0;
@@ -1158,7 +1147,7 @@ public final class HandTongue {
         }
 
         int faultPlace() {
-            return tape.start(at);
+            return tape.starts[at];
         }
 
         private void open() {
@@ -1169,8 +1158,9 @@ public final class HandTongue {
             draft.clear();
         }
 
+        /** The end is never accepted, so that no reader goes behind it. */
         private boolean accepts(int word) {
-            boolean here = tape.word(at) == word;
+            boolean here = tape.words[at] == word && word != Tape.FINISH;
             if (here) {
                 at++;
             }
@@ -1193,7 +1183,7 @@ public final class HandTongue {
                 ahead = states[size];
                 size++;
                 if (!accepts('/')) {
-                    return tape.word(at) == Tape.FINISH;
+                    return tape.words[at] == Tape.FINISH;
                 }
             }
             return false;
@@ -1206,7 +1196,7 @@ public final class HandTongue {
                     return true;
                 }
                 int value = tape.number(at);
-                if (tape.word(at) != Tape.NUMBER || !Book.fits(mark, value)) {
+                if (tape.words[at] != Tape.NUMBER || !Book.fits(mark, value)) {
                     return false;
                 }
                 states[size] = Book.withMark(states[size], mark, value);
@@ -1217,28 +1207,25 @@ public final class HandTongue {
 
         boolean readRules() {
             open();
-            if (tape.word(at) == Tape.FINISH) {
+            if (tape.words[at] == Tape.FINISH) {
                 return true;
             }
             for (int i = 0; i < Rules.MOST; i++) {
-                if (!readRule()) {
+                if (accepts(Tape.IF) && !readTest(0)) {
+                    return false;
+                }
+                if (!accepts(Tape.DO) || !readActs()) {
                     return false;
                 }
                 draft.closeRule();
                 if (!accepts(';')) {
-                    return tape.word(at) == Tape.FINISH;
+                    return tape.words[at] == Tape.FINISH;
                 }
             }
             return false;
         }
 
-        private boolean readRule() {
-            if (accepts(Tape.IF) && !readTest(0)) {
-                return false;
-            }
-            if (!accepts(Tape.DO)) {
-                return false;
-            }
+        private boolean readActs() {
             for (int i = 0; i <= Rules.MOST_ACTS; i++) {
                 if (!readAct()) {
                     return false;
@@ -1276,7 +1263,7 @@ public final class HandTongue {
             for (int i = 0; i < Tape.ROOM && accepts(Tape.NOT); i++) {
                 turned = !turned;
             }
-            if (tape.word(at) != '(') {
+            if (tape.words[at] != '(') {
                 if (!readComparison()) {
                     return false;
                 }
@@ -1332,7 +1319,7 @@ public final class HandTongue {
                 draft.addAct(side, Rules.DROP, 0);
                 return true;
             }
-            int mark = tape.word(at) - Tape.SHAPE_WORD;
+            int mark = tape.words[at] - Tape.SHAPE_WORD;
             if (!within(mark, MARKS)) {
                 return false;
             }
@@ -1351,7 +1338,7 @@ public final class HandTongue {
 
         /** A number as it is; what a side tells as a code above all numbers. */
         private int readValue() {
-            if (tape.word(at) == Tape.NUMBER) {
+            if (tape.words[at] == Tape.NUMBER) {
                 int value = tape.number(at);
                 if (value >= Rules.NUMBERS) {
                     return NONE;
@@ -1360,7 +1347,7 @@ public final class HandTongue {
                 return value;
             }
             int side = readSide();
-            int what = tape.word(at) - Tape.SHAPE_WORD;
+            int what = tape.words[at] - Tape.SHAPE_WORD;
             if (side == NONE || !within(what, Rules.VALUES_OF_SIDE)) {
                 return NONE;
             }
@@ -1559,7 +1546,9 @@ public final class HandTongue {
             signKey = (book.signPrice << KEY_BITS) + 1;
             for (int sign = 0; sign < book.signs; sign++) {
                 for (int ahead = NONE; ahead < book.signs; ahead++) {
-                    begin(ahead, sign);
+                    if (leads(ahead, sign)) {
+                        raiseAll(pairOf(ahead, sign), sign);
+                    }
                 }
             }
             for (int frame = frames.count - 1; frame >= 0; frame--) {
@@ -1569,7 +1558,8 @@ public final class HandTongue {
             }
         }
 
-        private void begin(int ahead, int sign) {
+        /** Whether no pair so far leaves a sign the states that this one does. */
+        private boolean leads(int ahead, int sign) {
             int pair = pairOf(ahead, sign);
             seams.take(sign);
             if (ahead != NONE) {
@@ -1578,9 +1568,7 @@ public final class HandTongue {
             begunSizes[pair] = seams.size;
             System.arraycopy(seams.states, 0, begun, pair * STATES, seams.size);
             leaders[pair] = leaderOf(ahead, sign);
-            if (leaders[pair] == pair) {
-                raiseAll(pair, sign);
-            }
+            return leaders[pair] == pair;
         }
 
         private int leaderOf(int ahead, int sign) {
@@ -1614,7 +1602,7 @@ public final class HandTongue {
                 }
                 sizes[triple] = seams.size;
                 System.arraycopy(seams.states, 0, surfaces, triple * STATES, seams.size);
-                Arrays.fill(going, triple * STATES, triple * STATES + STATES, FAR);
+                blank(going, triple * STATES, STATES);
             }
         }
 
@@ -1671,8 +1659,14 @@ public final class HandTongue {
         }
 
         private void start() {
-            Arrays.fill(starts, 0, FRAMES, FAR);
+            blank(starts, 0, FRAMES);
             starts[0] = signKey;
+        }
+
+        private static void blank(int[] keys, int from, int count) {
+            for (int i = from; i < from + count; i++) {
+                keys[i] = FAR;
+            }
         }
 
         /** The first row of the least key, sign by sign: the lowest sign from which that key is still reached. */
@@ -1726,7 +1720,7 @@ public final class HandTongue {
             int to = from + FRAMES;
             int size = sizes[triple];
             Arrays.fill(lanes, FAR);
-            Arrays.fill(starts, to, to + FRAMES, FAR);
+            blank(starts, to, FRAMES);
             for (int frame = depth; frame < frames.count; frame++) {
                 for (int i = size - 1; i >= 0; i--) {
                     int ahead = i == 0 ? starts[from + frame] : lanes[i - 1];
