@@ -266,6 +266,14 @@ public final class PromisesTest {
         badRules("if end=1 do drop end", 6);
         badRules("if ends place=1 do drop end", 3);
         badRules("dodrop end", 0);
+        badRules("doz drop end", 0);
+        badRules("ado drop end", 0);
+        badRules("do drop endz", 8);
+        badRules("do drop end`", 11);
+        badRules("do drop end{", 11);
+        badRules("do drop end/", 11);
+        badRules("do drop end:", 11);
+        badRules("Do drop end", 0);
         badRules("if 1000=1 do drop end", 3);
         badRules("if (((((((1=1))))))) do drop end", 9);
         badRules("if ((((((1=1 and (2=2))))))) do drop end", 17);
@@ -867,6 +875,8 @@ public final class PromisesTest {
         h = with("00000", "00001");
         h.variant(0, 0);
         h.used(1, 0, 0, 0);
+        due("concept 4 is not the next signer's first", h.counts(0, 4, 0), NONE);
+        due("nor is -1 the last signer's last", h.counts(2, -4, 0), NONE);
         h.used(1, 0, 1, 5);
         due("ahead", h.counts(1, 0, 4), 0);
         due("one of no variant hides the one ahead", h.counts(1, 0, 5), NONE);
@@ -1042,6 +1052,57 @@ public final class PromisesTest {
         due("no signs", empty.count(0), 0);
         due("no rules", empty.count(1), 0);
         due("no reading", empty.read(0, 0, 0), -6);
+        crossedImages();
+    }
+
+    /** Two images of unlike histories: what is told behind the one must not be seen in the other. */
+    private static void crossedImages() {
+        HandTongue h = new HandTongue();
+        h.image(0);
+        tell(h, "00000/11111", "do drop end", 1);
+        h.image(1);
+        h.back(0);
+        due("back to nothing", h.count(0) + h.count(1) + h.count(2) + h.count(3), 0);
+        tell(h, "22222p3", "if 1=2 do drop begin,drop end;do set end turn 2", 2);
+        h.back(1);
+        due("states", h.mark(0, -1, 0), 2);
+        due("first shape", h.mark(0, 0, 0), 0);
+        due("shape", h.mark(0, 1, 0), 121);
+        due("rule", h.surface(NONE, 0, 0, -1, 0), 1);
+        due("rule's turn", h.surface(NONE, 0, 0, 0, 2), 0);
+        due("sight", h.joined(1, 0, 1), 1);
+        due("sight's watcher and frame", h.joined(2, 0, 2), NONE);
+        due("sight's day", h.joined(1, 0, 0), NONE);
+        due("used", h.counts(1, 1, 1), 0);
+        due("used's day", h.counts(1, 1, 0), NONE);
+        due("no other used", h.counts(2, 1, 2), NONE);
+        due("variant", h.variant(1, 0), -4);
+        due("the other variant", h.variant(1, 1), -4);
+        due("upper share", h.share(1, 2, 1, 0), 9);
+        due("lower share", h.share(1, 2, 1, 1), 23);
+        h.back(0);
+        due("back to nothing", h.count(0) + h.count(1) + h.count(2) + h.count(3), 0);
+        tell(h, "22222p3", "do drop begin", 2);
+        due("states of the later history", h.mark(0, -1, 0), 1);
+        due("one variant there", h.variant(1, 0), 2);
+        due("nothing told of it", h.share(2, 0, 2, 1), 3);
+    }
+
+    private static void tell(HandTongue h, String sign, String rules, int n) {
+        sign(h, sign);
+        sign(h, sign);
+        rules(h, rules);
+        h.sight(n - 1, n, n, n, n, n, n);
+        for (int variant = n - 1; variant < 2; variant++) {
+            h.variant(1, variant);
+            for (int region = 0; region < 3; region++) {
+                h.use(1, variant, region, variant == 0 ? region + 1 : 1);
+            }
+        }
+        h.use(1, 1, 0, 1);
+        h.use(1, 1, 1, n);
+        h.use(1, 1, 2, n * n * n);
+        h.used(n, 1, n - 1, n);
     }
 
     private static void counts() {
