@@ -73,6 +73,7 @@ public final class HandTongue {
     public int sign() {
         Book book = live.book;
         if (book.signs >= SIGNS) {
+            tape.length = 0;
             return settle(NO_ROOM);
         }
         boolean good = grammar.readSign();

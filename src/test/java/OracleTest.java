@@ -367,6 +367,7 @@ public final class OracleTest {
 
         int sign() {
             if (now.signs.size() == 10) {
+                tape.clear();
                 return told(-5);
             }
             try {

@@ -159,10 +159,17 @@ public final class PromisesTest {
         due("no room ahead of reading", h.sign(), -5);
         due("status", h.status(), -5);
         due("no fault was read", h.fault(), NONE);
-        due("the tape was not read", h.count(4), 3);
+        due("tape is empty", h.count(4), 0);
+        due("feed behind it", h.feed(0, 0, 0, 0, 0), 20);
         due("signs", h.count(0), 10);
-        due("rules read it then", h.rules(), -6);
+        due("rules can't be", h.rules(), -6);
         due("fault", h.fault(), 0);
+        feed(h, "00000");
+        due("no room again", h.sign(), -5);
+        due("fault stays", h.fault(), 0);
+        due("tape is empty again", h.count(4), 0);
+        due("no room of an empty tape", h.sign(), -5);
+        due("no rules were left", h.rules(), 0);
     }
 
     private static void badSign(String text, int place) {
