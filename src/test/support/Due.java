@@ -1,0 +1,67 @@
+import java.io.IOException;
+import java.nio.file.Files;
+import java.nio.file.Path;
+
+/** Counts what is due and what is not as due, under the sentence of the document that asks for it. */
+final class Due {
+    private static final Path DOCUMENT = Path.of("../shared/DOC.md");
+    private static final int MOST_TOLD = 40;
+
+    private static String document;
+    private static String sentence = "";
+    private static int made;
+    private static int madeBefore;
+    private static int wrong;
+
+    private Due() {
+    }
+
+    /** What follows is due by these words, which must stand in the document. */
+    static void sentence(String words) {
+        closeSentence();
+        sentence = words;
+        if (document == null) {
+            document = read();
+        }
+        if (!document.isEmpty() && !document.contains(words)) {
+            fail("these words do not stand in the document");
+        }
+    }
+
+    private static void closeSentence() {
+        if (!sentence.isEmpty() && made == madeBefore) {
+            fail("nothing was tested");
+        }
+        madeBefore = made;
+    }
+
+    private static String read() {
+        try {
+            return Files.exists(DOCUMENT) ? Files.readString(DOCUMENT).replaceAll("\\s+", " ") : "";
+        } catch (IOException e) {
+            throw new IllegalStateException(e);
+        }
+    }
+
+    static void due(String what, long got, long want) {
+        made++;
+        if (got != want) {
+            fail(what + " answered " + got + ", due is " + want);
+        }
+    }
+
+    static void fail(String what) {
+        wrong++;
+        if (wrong <= MOST_TOLD) {
+            System.out.println("[" + sentence + "] " + what);
+        }
+    }
+
+    static void finish(String test) {
+        closeSentence();
+        System.out.println(test + ": " + made + " answers, " + wrong + " wrong");
+        if (wrong != 0 || made == 0) {
+            System.exit(1);
+        }
+    }
+}
