@@ -248,6 +248,10 @@ public final class FolkBoundsTest {
         for (int[] b : bad) {
             Due.due("counts", h.counts(b[0], b[1], b[2]), NONE);
         }
+        h.used(1, 0, 2, 0);
+        Due.due("concept 4 is not the next signer's first", h.counts(0, 4, 999), NONE);
+        Due.due("concept -1 is not the last signer's last", h.counts(10, -1, 999), NONE);
+        Due.due("concept -4 is not the last signer's first", h.counts(2, -4, 999), NONE);
         for (int wild : WILD) {
             Due.due("signer " + wild, h.counts(wild, 0, 0), NONE);
             Due.due("concept " + wild, h.counts(0, wild, 0), NONE);

@@ -7,6 +7,7 @@ public final class HouseBoundsTest {
     public static void main(String[] args) {
         imagesAtFirst();
         imagesKeep();
+        imagesCrossed();
         imagesKeepNot();
         imagesStay();
         imagesOfBounds();
@@ -79,6 +80,79 @@ public final class HouseBoundsTest {
         }
         for (int region = 0; region < 3; region++) {
             h.prior(region, 70 + region);
+        }
+    }
+
+    /** Two histories of unlike signs, rules, sights and signers: nothing of the one is seen in the other. */
+    private static void imagesCrossed() {
+        Due.sentence("BACK to one all is as it was then (IMAGES stay).");
+        Scene.Step one = h -> {
+            h.back(0);
+            tellFirst(h);
+        };
+        Scene.Step other = h -> {
+            h.back(0);
+            tellSecond(h);
+        };
+        Scene.Step bare = h -> h.image(0);
+        List<List<Long>> first = Scene.answers(bare, one, h -> h.image(1), HouseBoundsTest::drain, h -> h.back(1));
+        List<List<Long>> crossed = Scene.answers(bare, one, h -> h.image(1), other, HouseBoundsTest::drain, h -> h.back(1));
+        Scene.same("back to the first history", crossed, first);
+        List<List<Long>> second = Scene.answers(bare, other, h -> h.image(1), HouseBoundsTest::drain, h -> h.back(1));
+        List<List<Long>> turned = Scene.answers(bare, other, h -> h.image(1), one, HouseBoundsTest::drain, h -> h.back(1));
+        Scene.same("back to the second history", turned, second);
+        Due.due("the histories are unlike", first.equals(second) ? 1 : 0, 0);
+        List<List<Long>> anew = Scene.answers(bare, one, h -> h.image(1), h -> h.back(0), h -> h.image(1), other, h -> h.image(1),
+                HouseBoundsTest::drain);
+        Scene.same("the second behind the first", anew, Scene.answers(bare, other, h -> h.image(1), HouseBoundsTest::drain));
+    }
+
+    /** Texts, faults and readings are no part of an image, so they are made alike. */
+    private static void drain(Hand h) {
+        h.back(0);
+        h.sign("00000");
+        h.read(0, 0, 0);
+        h.sign("x");
+        h.back(1);
+    }
+
+    private static void tellFirst(Hand h) {
+        h.sign("00000p1/11111p2/22222p3/00012p4");
+        h.sign("22222t5");
+        h.rules("if end place=4 or begin turn=5 do set begin other 3,drop end;do set end turn 6");
+        for (int i = 0; i < 7; i++) {
+            h.sight(i % 2, i, 30 * i, i, i, i, i % 3);
+        }
+        for (int concept = 0; concept < 4; concept++) {
+            h.variant(concept, 0);
+            h.variant(concept, 1);
+            for (int region = 0; region < 3; region++) {
+                h.use(concept, 0, region, region + concept);
+                h.use(concept, 1, region, 1);
+            }
+            h.used(concept, concept, 0, concept);
+            h.used(concept, 3 - concept, 1, 2);
+        }
+    }
+
+    private static void tellSecond(Hand h) {
+        h.sign("22222p9o9");
+        h.sign("11111p8/00000t7");
+        h.sign("00000p1/00001");
+        h.rules("if not end place=9 do drop begin;if end states>1 do set end place begin place;do set begin turn 1");
+        for (int i = 0; i < 12; i++) {
+            h.sight(1 - i % 2, i, 242 - i, 19 - i, 7 - i % 8, 9 - i % 10, 2 - i % 3);
+        }
+        for (int concept = 3; concept >= 0; concept--) {
+            for (int sign = 2; sign >= 0; sign--) {
+                h.variant(concept, sign);
+                for (int region = 0; region < 3; region++) {
+                    h.use(concept, sign, region, 9 - region - sign);
+                }
+            }
+            h.used(9 - concept, concept, 2, 1);
+            h.used(concept, concept, 1, 0);
+            h.used(concept, concept, 2, 2);
         }
     }
 

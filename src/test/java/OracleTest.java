@@ -1302,6 +1302,9 @@ public final class OracleTest {
             if (seed % 8 == 0) {
                 fillBook();
             }
+            if (seed % 4 == 2) {
+                seams();
+            }
             while (left > 60 && wrong < 10) {
                 switch (random.nextInt(8)) {
                     case 0:
@@ -1337,6 +1340,39 @@ public final class OracleTest {
                 feed(signText());
                 due("sign()", hands.sign(), model.sign());
             }
+        }
+
+        /** Readings of rows whose surfaces depend on both neighbours, which random texts seldom make. */
+        void seams() {
+            fillBook();
+            while (left > 120 && wrong < 10) {
+                String text = seamText();
+                feed(text);
+                due("rules() of " + text, hands.rules(), model.rules());
+                watchers();
+                watchers();
+                readings();
+                readings();
+                settings();
+            }
+        }
+
+        String seamText() {
+            StringBuilder text = new StringBuilder();
+            int rules = 1 + random.nextInt(4);
+            for (int i = 0; i < rules; i++) {
+                String mark = pick("shape", "place", "turn", "other", "states");
+                String other = pick("shape ", "place ", "turn ", "other ");
+                text.append(i > 0 ? ";" : "");
+                if (random.nextInt(3) > 0) {
+                    text.append("if ").append(pick("", "not ")).append("end ").append(mark).append(pick("<", ">", "="))
+                            .append(pick("begin " + mark, "" + random.nextInt(3))).append(" ");
+                }
+                text.append("do ").append(pick("drop end", "drop begin", "set end " + other + "begin " + other,
+                        "set begin " + other + "end " + other, "set end " + other + random.nextInt(5),
+                        "set begin " + other + random.nextInt(5), "set end turn begin states,set begin turn end states"));
+            }
+            return text.toString();
         }
 
         void texts() {

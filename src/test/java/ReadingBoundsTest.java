@@ -19,6 +19,9 @@ public final class ReadingBoundsTest {
         greatestCost();
         costRefused();
         bestTies();
+        surfacesInRows();
+        bestOfCosts();
+        ledCosts();
         noReading();
         latest();
         ledPlaces();
@@ -500,6 +503,11 @@ public final class ReadingBoundsTest {
         h.prices(5, 11);
         Due.due("more", h.read(0, 1, 0), 21);
         Due.due("fewer signs for less", h.best(-1), 1);
+        h = Hand.with("00000", "22222");
+        h.prices(5, 0);
+        seenAll(h, NONE, 242);
+        Due.due("1 and 0, 1 of alike cost", h.read(0, 1, 0), 0);
+        Due.due("the fewest ahead of the first", h.best(-1) * 10 + h.best(0), 11);
         h = Hand.with("00000/11111", "00000", "11111/22222", "22222");
         seenAll(h, 0, 121, 242);
         Due.due("0 and 3 or 1 and 2", h.read(0, 2, 0), 2);
@@ -508,6 +516,124 @@ public final class ReadingBoundsTest {
         seenAll(h, 0, 121, 242);
         Due.due("2 and 1 or 3 and 0", h.read(0, 2, 0), 2);
         Due.due("the first sign ahead of the second", h.best(0) * 10 + h.best(1), 21);
+    }
+
+    private static void surfacesInRows() {
+        Due.sentence("led to a STATE of the SURFACE of one of them (as they stand in the row)");
+        Hand h = Hand.with("00000p1", "00000p2", "00000p3");
+        h.rules("if begin place=3 do set end shape 242;if end place=3 do set begin shape 121");
+        int[][] costs = {{0, NONE, NONE, 0}, {0, 1, NONE, 0}, {0, 2, NONE, 10}, {2, 0, NONE, 5}, {2, 2, NONE, 15}, {0, 0, 2, 10},
+            {0, 2, 0, 15}, {2, 0, 0, 5}, {2, 0, 2, 10}, {2, 1, 0, 5}, {0, 1, 2, 10}, {2, 2, 2, 25}};
+        for (int frame = 0; frame < 3; frame++) {
+            seen(h, frame, 0);
+        }
+        for (int[] row : costs) {
+            int signs = row[1] == NONE ? 1 : row[2] == NONE ? 2 : 3;
+            int from = 3 - signs;
+            h.prices(1000, 0);
+            Due.due("row " + row[0] + ", " + row[1] + ", " + row[2], h.cost(row[0], row[1], row[2], from, 2, 0), row[3]);
+        }
+        h.prices(5, 1);
+        seenAll(h, 242, 0, 121);
+        Due.due("2 ahead and 2 behind", h.cost(0, 2, 0, 0, 2, 0), 3);
+        Due.due("that is the best", h.read(0, 2, 0), 3);
+        Due.due("the first of such rows", h.best(0) * 100 + h.best(1) * 10 + h.best(2), 20);
+        Due.due("rivals of no more: 0 or 1 ahead, 0 or 1 behind", h.rivals(0, 2, 0, 0), 4);
+        h = Hand.with("00000/00001", "00000/00010", "00000/00100");
+        h.rules("if begin states=2 do drop end,set begin place 4");
+        Due.due("a neighbour drops", h.read(0, 2, 0), 1);
+        Due.due("two signs in three frames", h.cost(0, 1, NONE, 0, 2, 0), 2);
+        Due.due("three in four", h.cost(0, 1, 2, 0, 3, 0), 3);
+        Due.due("not three in three", h.cost(0, 1, 2, 0, 2, 0), -6);
+    }
+
+    private static Hand seams(String rules, int... shapes) {
+        Hand h = Hand.with("00000p1/00012/22222", "11111p2/00000/12120t3", "22222/21000p1o2");
+        h.rules(rules);
+        h.place(1, 3, 4);
+        h.place(2, 0, 6);
+        h.weight(0, 2);
+        h.weight(2, 3);
+        for (int frame = 0; frame < shapes.length; frame++) {
+            h.sight(frame % 2, frame, shapes[frame], frame % 3, NONE, frame % 4 == 0 ? 2 : NONE, 0);
+        }
+        return h;
+    }
+
+    private static final String[] RULES = {"", "do set end shape begin shape", "do set begin shape end shape",
+        "if begin place=2 do set end turn 3,set begin shape 0", "if end place=1 do set begin other 2,set end shape 8",
+        "if end states=2 do set end place 2,set begin place 1;if begin states=2 do set end shape 242"};
+
+    /** Signs of two or three states: in seven frames no row has more than three signs, so each row's cost can be asked for. */
+    private static void bestOfCosts() {
+        Due.sentence("BEST: the row of least COST; of alike ones that of the fewest SIGNS, then the first as rows. RIVALS within n:"
+                + " how many rows have a COST of no more than that and n (1000 at most).");
+        int[] shapes = {0, 5, 242, 121, 3, 242, 189};
+        for (String rules : RULES) {
+            for (int to = 1; to < 7; to++) {
+                Hand h = seams(rules, shapes);
+                int least = Hand.MOST;
+                int[] best = {};
+                int[] rows = new int[39];
+                for (int i = 0; i < 39; i++) {
+                    int[] row = i < 3 ? new int[] {i, NONE, NONE} : i < 12 ? new int[] {(i - 3) / 3, i % 3, NONE}
+                            : new int[] {(i - 12) / 9, (i - 12) / 3 % 3, i % 3};
+                    int cost = h.cost(row[0], row[1], row[2], 0, to, 0);
+                    rows[i] = cost < 0 ? Hand.MOST : cost;
+                    best = rows[i] < least ? row : best;
+                    least = Math.min(least, rows[i]);
+                }
+                Due.due("least up to " + to + " by " + rules, h.read(0, to, 0), least);
+                for (int i = 0; i < 3; i++) {
+                    Due.due("sign " + i + " up to " + to + " by " + rules, h.best(i), best[i]);
+                }
+                for (int n : new int[] {0, 1, 5, 20, 60, 199, 200}) {
+                    int within = 0;
+                    for (int cost : rows) {
+                        within += cost <= least + n ? 1 : 0;
+                    }
+                    Due.due("rivals within " + n + " up to " + to + " by " + rules, h.rivals(0, to, 0, n), within);
+                }
+            }
+        }
+    }
+
+    /** What the led states cost, asked for mark by mark, is the cost of the row. */
+    private static void ledCosts() {
+        Due.sentence("LED: for a FRAME the place in the BEST row, the STATE of the SURFACE: of its cheapest READINGS");
+        int[] shapes = {0, 5, 242, 121, 3, 242, 189, 0, 0, 17, 242, 240, 121, 120, 119, 0, 60, 80, 242, 121};
+        for (String rules : RULES) {
+            for (int slide : new int[] {0, 4, 1000}) {
+                Hand h = seams(rules, shapes);
+                h.prices(slide, 3);
+                int least = h.read(0, 19, 0);
+                int signs = h.best(-1);
+                int sum = 3 * signs;
+                for (int frame = 0; frame < 20; frame++) {
+                    int state = h.led(frame, 1);
+                    sum += state == NONE ? slide : ledCost(h, frame, state);
+                    int ahead = frame == 0 ? 0 : h.led(frame - 1, 0);
+                    int step = h.led(frame, 0) - ahead;
+                    Due.due("no step back, none over a sign: " + step, step == 0 || step == 1 ? 1 : 0, 1);
+                }
+                Due.due("cost of the led states by " + rules, sum, least);
+                Due.due("the last sign is reached", h.led(19, 0), signs - 1);
+            }
+        }
+    }
+
+    private static int ledCost(Hand h, int frame, int state) {
+        int[] weights = {2, 1, 3, 1};
+        int place = h.led(frame, 0);
+        int ahead = place == 0 ? NONE : h.best(place - 1);
+        int behind = place + 1 == h.best(-1) ? NONE : h.best(place + 1);
+        int sum = 0;
+        for (int mark = 0; mark < 4; mark++) {
+            int seen = h.joined(frame, mark, 0);
+            int value = h.surface(ahead, h.best(place), behind, state, mark);
+            sum += seen == NONE ? 0 : weights[mark] * h.distance(mark, seen, value);
+        }
+        return sum;
     }
 
     private static void noReading() {
@@ -631,6 +757,24 @@ public final class ReadingBoundsTest {
         h.prices(1, 1);
         Due.due("slides that cost do not", h.read(0, 4, 0), 2);
         led(h, "a0 b0 b0 b0 b0");
+        for (int frames = 2; frames <= 8; frames++) {
+            h = Hand.with("00000", "22222");
+            h.prices(0, 1);
+            seen(h, 0, 0);
+            StringBuilder due = new StringBuilder("a0");
+            for (int frame = 1; frame < frames; frame++) {
+                seen(h, frame, 242);
+                due.append(frame <= 3 && frame < frames - 1 ? " a-" : " b0");
+            }
+            Due.due("three free slides at most", h.read(0, frames - 1, 0), 2);
+            led(h, due.toString());
+        }
+        h = Hand.with("00000", "22222");
+        h.weight(0, 20);
+        h.prices(50, 1);
+        seenAll(h, 0, 1, 1, 1, 121, 121, 121, 241, 242);
+        Due.due("slides in place of what is far", h.read(0, 8, 0), 2 + 20 * 3 + 50 * 3 + 20);
+        led(h, "a0 a0 a0 a0 a- a- a- b0 b0");
         h = Hand.with("00000/22222", "11111");
         h.prices(10, 0);
         seenAll(h, 0, 242, 8, 121);

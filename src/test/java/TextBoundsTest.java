@@ -697,6 +697,14 @@ public final class TextBoundsTest {
         badRules("do set end place 1 2", 19);
         badRules("do set end place=1", 16);
         badRules("do set end place end drop", 21);
+        badRules("do end", 3);
+        badRules("do begin", 3);
+        badRules("do end place 1", 3);
+        badRules("do drop end,end", 12);
+        badRules("do drop end,begin place 1", 12);
+        badRules("do set", 6);
+        badRules("do set drop end", 7);
+        badRules("do drop set end place 1", 8);
         badRules("do drop 1", 8);
         badRules("do drop end place", 12);
         badRules("do drop end begin", 12);
