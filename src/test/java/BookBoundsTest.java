@@ -499,7 +499,16 @@ public final class BookBoundsTest {
         for (int i = 0; i < 10; i++) {
             shapes.sign("0000" + i % 3 + "p" + i);
         }
-        Due.due("one mark of ten", shapes.parting(), 2);
+        for (int i = 0; i < 4; i++) {
+            Due.due("one mark of ten", shapes.parting(), 2);
+        }
+        Hand back = Hand.with("00000", "00000p1");
+        back.image(0);
+        back.sign("00001");
+        back.sign("00002t1");
+        Due.due("of four signs", back.parting(), 3);
+        back.back(0);
+        Due.due("of two signs again", back.parting(), 2);
     }
 
     private static void like() {

@@ -24,6 +24,7 @@ public final class ReadingBoundsTest {
         ledCosts();
         noReading();
         latest();
+        fullBook();
         ledPlaces();
         ledTies();
         rivals();
@@ -560,6 +561,9 @@ public final class ReadingBoundsTest {
         return h;
     }
 
+    private static final String[] DROPS = {"do drop end", "do drop begin", "if end place=2 do drop begin",
+        "if begin place=2 do drop end;if end place=2 do drop begin", "if end states=4 do drop begin,set begin turn end place",
+        "if begin other=1 do drop end,set end shape begin shape;if end turn>begin turn do set begin place 3,drop begin"};
     private static final String[] RULES = {"", "do set end shape begin shape", "do set begin shape end shape",
         "if begin place=2 do set end turn 3,set begin shape 0", "if end place=1 do set begin other 2,set end shape 8",
         "if end states=2 do set end place 2,set begin place 1;if begin states=2 do set end shape 242"};
@@ -571,30 +575,56 @@ public final class ReadingBoundsTest {
         int[] shapes = {0, 5, 242, 121, 3, 242, 189};
         for (String rules : RULES) {
             for (int to = 1; to < 7; to++) {
-                Hand h = seams(rules, shapes);
-                int least = Hand.MOST;
-                int[] best = {};
-                int[] rows = new int[39];
-                for (int i = 0; i < 39; i++) {
-                    int[] row = i < 3 ? new int[] {i, NONE, NONE} : i < 12 ? new int[] {(i - 3) / 3, i % 3, NONE}
-                            : new int[] {(i - 12) / 9, (i - 12) / 3 % 3, i % 3};
-                    int cost = h.cost(row[0], row[1], row[2], 0, to, 0);
-                    rows[i] = cost < 0 ? Hand.MOST : cost;
-                    best = rows[i] < least ? row : best;
-                    least = Math.min(least, rows[i]);
-                }
-                Due.due("least up to " + to + " by " + rules, h.read(0, to, 0), least);
-                for (int i = 0; i < 3; i++) {
-                    Due.due("sign " + i + " up to " + to + " by " + rules, h.best(i), best[i]);
-                }
-                for (int n : new int[] {0, 1, 5, 20, 60, 199, 200}) {
-                    int within = 0;
-                    for (int cost : rows) {
-                        within += cost <= least + n ? 1 : 0;
-                    }
-                    Due.due("rivals within " + n + " up to " + to + " by " + rules, h.rivals(0, to, 0, n), within);
-                }
+                bestOfCosts(seams(rules, shapes), to, "up to " + to + " by " + rules);
             }
+        }
+        for (String rules : DROPS) {
+            for (int to = 0; to < 9; to++) {
+                if (to < 3) {
+                    bestOfCosts(seams(rules, shapes), to, "up to " + to + " by " + rules);
+                }
+                bestOfCosts(longSigns(rules), to, "long signs up to " + to + " by " + rules);
+            }
+        }
+    }
+
+    /** Signs of four states, of which neighbours take one at each end at most, so that four of them need ten frames. */
+    private static Hand longSigns(String rules) {
+        Hand h = Hand.with("00000p1/00012/22222t2/11111o1", "11111p2t3/00000/12120/00001t1", "22222o1/21000p1o2/00000/00000t5");
+        h.rules(rules);
+        h.place(1, 1, 0);
+        h.place(2, 0, 3);
+        h.place(3, 2, 2);
+        int[] shapes = {5, 242, 121, 0, 3, 189, 200, 0, 1};
+        for (int frame = 0; frame < 9; frame++) {
+            h.sight(0, frame, shapes[frame], frame % 4, frame % 3, frame % 2, 0);
+        }
+        return h;
+    }
+
+    private static void bestOfCosts(Hand h, int to, String what) {
+        int least = Hand.MOST;
+        int[] best = {NONE, NONE, NONE};
+        int[] rows = new int[39];
+        for (int i = 0; i < 39; i++) {
+            int[] row = i < 3 ? new int[] {i, NONE, NONE} : i < 12 ? new int[] {(i - 3) / 3, i % 3, NONE}
+                    : new int[] {(i - 12) / 9, (i - 12) / 3 % 3, i % 3};
+            int cost = h.cost(row[0], row[1], row[2], 0, to, 0);
+            rows[i] = cost < 0 ? Hand.MOST : cost;
+            best = rows[i] < least ? row : best;
+            least = Math.min(least, rows[i]);
+        }
+        boolean any = least < Hand.MOST;
+        Due.due("least " + what, h.read(0, to, 0), any ? least : -6);
+        for (int i = 0; i < 3; i++) {
+            Due.due("sign " + i + " " + what, h.best(i), best[i]);
+        }
+        for (int n : new int[] {0, 1, 5, 20, 60, 199, 200}) {
+            int within = 0;
+            for (int cost : rows) {
+                within += any && cost <= least + n ? 1 : 0;
+            }
+            Due.due("rivals within " + n + " " + what, h.rivals(0, to, 0, n), any ? within : NONE);
         }
     }
 
@@ -607,33 +637,74 @@ public final class ReadingBoundsTest {
                 Hand h = seams(rules, shapes);
                 h.prices(slide, 3);
                 int least = h.read(0, 19, 0);
-                int signs = h.best(-1);
-                int sum = 3 * signs;
+                Led led = new Led(h);
+                int sum = 3 * led.row.length;
                 for (int frame = 0; frame < 20; frame++) {
-                    int state = h.led(frame, 1);
-                    sum += state == NONE ? slide : ledCost(h, frame, state);
-                    int ahead = frame == 0 ? 0 : h.led(frame - 1, 0);
-                    int step = h.led(frame, 0) - ahead;
-                    Due.due("no step back, none over a sign: " + step, step == 0 || step == 1 ? 1 : 0, 1);
+                    sum += led.states[frame] == NONE ? slide : led.cost(frame);
+                    Due.due("a step that can be, to frame " + frame, led.isStep(frame) ? 1 : 0, 1);
                 }
                 Due.due("cost of the led states by " + rules, sum, least);
-                Due.due("the last sign is reached", h.led(19, 0), signs - 1);
+                Due.due("the last sign is reached", led.places[19], led.row.length - 1);
+                Due.due("its last state too", led.states[19], led.lastState(led.row.length - 1));
             }
         }
     }
 
-    private static int ledCost(Hand h, int frame, int state) {
-        int[] weights = {2, 1, 3, 1};
-        int place = h.led(frame, 0);
-        int ahead = place == 0 ? NONE : h.best(place - 1);
-        int behind = place + 1 == h.best(-1) ? NONE : h.best(place + 1);
-        int sum = 0;
-        for (int mark = 0; mark < 4; mark++) {
-            int seen = h.joined(frame, mark, 0);
-            int value = h.surface(ahead, h.best(place), behind, state, mark);
-            sum += seen == NONE ? 0 : weights[mark] * h.distance(mark, seen, value);
+    /** The latest best of all frames, as it is led. */
+    private static final class Led {
+        private static final int[] WEIGHTS = {2, 1, 3, 1};
+        final int[] places = new int[20];
+        final int[] states = new int[20];
+        final int[] row;
+        private final Hand h;
+
+        Led(Hand h) {
+            this.h = h;
+            row = new int[Math.max(1, h.best(-1))];
+            for (int i = 0; i < row.length; i++) {
+                row[i] = h.best(i);
+            }
+            for (int frame = 0; frame < 20; frame++) {
+                places[frame] = h.led(frame, 0);
+                states[frame] = h.led(frame, 1);
+            }
         }
-        return sum;
+
+        private int ofSurface(int place, int state, int mark) {
+            int ahead = place == 0 ? NONE : row[place - 1];
+            int behind = place == row.length - 1 ? NONE : row[place + 1];
+            return h.surface(ahead, row[place], behind, state, mark);
+        }
+
+        int lastState(int place) {
+            return ofSurface(place, -1, 0) - 1;
+        }
+
+        int cost(int frame) {
+            int sum = 0;
+            for (int mark = 0; mark < 4; mark++) {
+                int seen = h.joined(frame, mark, 0);
+                sum += seen == NONE ? 0
+                        : WEIGHTS[mark] * h.distance(mark, seen, ofSurface(places[frame], states[frame], mark));
+            }
+            return sum;
+        }
+
+        /** From the frame ahead: on in a sign, from its last state to a slide or to the next sign's first state. */
+        boolean isStep(int frame) {
+            if (frame == 0) {
+                return places[0] == 0 && states[0] == 0;
+            }
+            int ahead = states[frame - 1];
+            boolean over = ahead == NONE || ahead == lastState(places[frame - 1]);
+            if (places[frame] != places[frame - 1]) {
+                return places[frame] == places[frame - 1] + 1 && states[frame] == 0 && over;
+            }
+            if (states[frame] == NONE) {
+                return over && !(frame > 3 && ahead == NONE && states[frame - 2] == NONE && states[frame - 3] == NONE);
+            }
+            return ahead != NONE && (states[frame] == ahead || states[frame] == ahead + 1);
+        }
     }
 
     private static void noReading() {
@@ -684,6 +755,36 @@ public final class ReadingBoundsTest {
         Due.due("kept as it was read", h.best(0), 1);
         h.rivals(0, 2, 0, 5);
         Due.due("rivals leave it", h.best(-1), 1);
+    }
+
+    /** Ten signs of four states in twenty frames: the greatest tables there are. */
+    private static void fullBook() {
+        Due.sentence("A SIGN has 1 .. 4 STATES; SIGNS 0 .. 9 (10 at most).");
+        Hand h = new Hand();
+        for (int i = 0; i < 10; i++) {
+            h.sign("00000p" + i + "/11111/22222/00012o" + i);
+        }
+        for (int frame = 0; frame < 20; frame++) {
+            h.sight(0, frame, new int[] {0, 121, 242, 5}[frame % 4], NONE, NONE, frame % 4 == 3 ? 9 - frame / 4 : NONE, 0);
+        }
+        Due.due("the least", h.read(0, 19, 0), 5);
+        Due.due("five signs", h.best(-1), 5);
+        for (int i = 0; i < 5; i++) {
+            Due.due("sign " + i, h.best(i), 9 - i);
+        }
+        for (int frame = 0; frame < 20; frame++) {
+            Due.due("place of " + frame, h.led(frame, 0), frame / 4);
+            Due.due("state of " + frame, h.led(frame, 1), frame % 4);
+        }
+        Due.due("itself alone", h.rivals(0, 19, 0, 0), 1);
+        Due.due("and those that have one other sign", h.rivals(0, 19, 0, 1), 1 + 5 * 9);
+        Due.due("and those that have two", h.rivals(0, 19, 0, 2), 1 + 5 * 9 + 10 * 81);
+        Due.due("and more", h.rivals(0, 19, 0, 3), 1000);
+        Due.due("cost of three", h.cost(9, 8, 7, 0, 11, 0), 3);
+        Due.due("of the last alone", h.cost(9, NONE, NONE, 0, 3, 0), 1);
+        h.rules("if begin place=8 do set end other 0");
+        Due.due("the ninth changes the tenth", h.read(0, 19, 0), 6);
+        Due.due("cost of it", h.cost(9, 8, NONE, 0, 7, 0), 3);
     }
 
     private static void ledPlaces() {

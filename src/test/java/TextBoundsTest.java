@@ -570,6 +570,10 @@ public final class TextBoundsTest {
         Due.due("the 40th counts", h.surface(NONE, 0, 1, 0, 3), 9);
         h.rules("if 1=1" + "and 1=1".repeat(38) + "and 1=2 do set end other 9");
         Due.due("the 40th counts against it", h.surface(NONE, 0, 1, 0, 3), 0);
+        for (int i = 0; i < 12; i++) {
+            Due.due("40 facts, again and again", h.rules("if 1=" + i % 2 + "and 1=1".repeat(39) + "do set end other 9"), 1);
+            Due.due("they count", h.surface(NONE, 0, 1, 0, 3), i % 2 == 0 ? 0 : 9);
+        }
         Due.due("a text that was refused leaves no facts behind", h.rules(forty + "or 1=1do drop end"), -6);
         Due.due("40 again", h.rules(forty + "do drop end"), 1);
     }
@@ -703,6 +707,10 @@ public final class TextBoundsTest {
         badRules("do drop end,end", 12);
         badRules("do drop end,begin place 1", 12);
         badRules("do set", 6);
+        badRules("do set end", 10);
+        badRules("do set end ", 11);
+        badRules("do set end,drop end", 10);
+        badRules("do set begin;do drop end", 12);
         badRules("do set drop end", 7);
         badRules("do drop set end place 1", 8);
         badRules("do drop 1", 8);
