@@ -25,6 +25,8 @@ public final class ReadingBoundsTest {
         noReading();
         latest();
         fullBook();
+        statesLeft();
+        costOfEachValue();
         ledPlaces();
         ledTies();
         rivals();
@@ -785,6 +787,78 @@ public final class ReadingBoundsTest {
         h.rules("if begin place=8 do set end other 0");
         Due.due("the ninth changes the tenth", h.read(0, 19, 0), 6);
         Due.due("cost of it", h.cost(9, 8, NONE, 0, 7, 0), 3);
+        int[][] rows = {{9, 9, 9, 8, 9}, {0, 1, 9, 0, 9}, {8, 8, 7, 9, 9}, {1, 1, 0, 9, 2}};
+        for (int[] row : rows) {
+            fullRow(row);
+        }
+    }
+
+    /** Of ten signs each sees by its first state which one stands ahead of it, so that one row alone fits. */
+    private static void fullRow(int[] row) {
+        Hand h = new Hand();
+        for (int i = 0; i < 10; i++) {
+            h.sign("00000p" + i + "/11111/22222/00012o" + i);
+            h.place(i, i, 2 * i);
+        }
+        h.rules("do set begin shape end other");
+        for (int frame = 0; frame < 20; frame++) {
+            int first = frame < 4 ? 0 : row[frame / 4 - 1];
+            h.sight(1, frame, new int[] {first, 121, 242, 5}[frame % 4], row[frame / 4], 0, frame % 4 == 3 ? row[frame / 4] : NONE, 0);
+        }
+        Due.due("the least", h.read(0, 19, 0), 5);
+        Due.due("five signs", h.best(-1), 5);
+        for (int i = 0; i < 5; i++) {
+            Due.due("sign " + i, h.best(i), row[i]);
+        }
+        Due.due("that row alone", h.rivals(0, 19, 0, 0), 1);
+    }
+
+    /** Two neighbours that leave unlike numbers of states, the fewer ahead of the more. */
+    private static void statesLeft() {
+        Due.sentence("each STATE having one at least");
+        Hand h = Hand.with("11111p1", "00000/22222", "11110p2");
+        h.rules("if end place=1 do drop begin;if end place=2 and begin states=2 do set begin shape 242");
+        seenAll(h, 120, 242, 242);
+        Due.due("2 and 1 needs three frames", h.cost(2, 1, NONE, 0, 1, 0), -6);
+        Due.due("0 and 1 needs two", h.cost(0, 1, NONE, 0, 1, 0), 3);
+        Due.due("the best of two frames", h.read(0, 1, 0), 3);
+        Due.due("0 and 1", h.best(0) * 10 + h.best(1), 1);
+        Due.due("the best of three", h.read(0, 2, 0), 2);
+        Due.due("2 and 1", h.best(0) * 10 + h.best(1), 21);
+    }
+
+    /** Each value that can be seen beside the least and the greatest that a sign can have. */
+    private static void costOfEachValue() {
+        Due.sentence("the sum over MARKS that are JOINED of WEIGHT times DISTANCE");
+        int[] weights = {2, 3, 5, 7};
+        for (int mark = 0; mark < 4; mark++) {
+            for (int from = 0; from <= MOST[mark]; from += 10) {
+                Hand h = Hand.with("00000", "22222p19t7o9", "11111p10t4o5");
+                for (int i = 0; i < 20; i++) {
+                    h.place(i, (7 * i) % 21, 20 - i);
+                }
+                for (int i = 0; i < 4; i++) {
+                    h.weight(i, weights[i]);
+                }
+                for (int value = from; value <= MOST[mark] && value < from + 10; value++) {
+                    int[] told = {NONE, NONE, NONE, NONE};
+                    told[mark] = value;
+                    h.sight(0, value - from, told[0], told[1], told[2], told[3], 0);
+                    for (int sign = 0; sign < 3; sign++) {
+                        int due = 1 + weights[mark] * h.distance(mark, value, h.mark(sign, 0, mark));
+                        Due.due("mark " + mark + " seen as " + value + " of sign " + sign,
+                                h.cost(sign, NONE, NONE, value - from, value - from, 0), due);
+                        int all = 1;
+                        int[] edge = {mark == 0 ? value : 242, mark == 1 ? value : 19, mark == 2 ? value : 7, mark == 3 ? value : 9};
+                        h.sight(1, 19, edge[0], edge[1], edge[2], edge[3], 0);
+                        for (int i = 0; i < 4; i++) {
+                            all += weights[i] * h.distance(i, edge[i], h.mark(sign, 0, i));
+                        }
+                        Due.due("all of it", h.cost(sign, NONE, NONE, 19, 19, 0), all);
+                    }
+                }
+            }
+        }
     }
 
     private static void ledPlaces() {
