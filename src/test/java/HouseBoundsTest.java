@@ -141,7 +141,7 @@ public final class HouseBoundsTest {
         h.sign("00000p1/00001");
         h.rules("if not end place=9 do drop begin;if end states>1 do set end place begin place;do set begin turn 1");
         for (int i = 0; i < 12; i++) {
-            h.sight(1 - i % 2, i, 242 - i, 19 - i, 7 - i % 8, 9 - i % 10, 2 - i % 3);
+            h.sight(i / 2 % 2, 19 - i, 242 - i, 19 - i, 7 - i % 8, 9 - i % 10, 2 - i % 3);
         }
         for (int concept = 3; concept >= 0; concept--) {
             for (int sign = 2; sign >= 0; sign--) {
@@ -424,6 +424,34 @@ public final class HouseBoundsTest {
                 Due.due("status behind a bad " + names[i], h.status(), -status);
             }
         }
+        String calls = "best -1;best 0;best 5;led 2 0;led 2 1;led 7 0;led 2 2;count 0;count 1;count 2;count 3;count 4;count 5;"
+                + "mark 0 -1 0;mark 0 1 3;mark 0 2 0;surface 1 0 2 -1 0;surface 1 0 2 0 0;surface -1 0 -1 9 9;distance 1 3 4;"
+                + "joined 2 0 0;joined 2 3 0;joined 1 0 0;clashes 0 19 999;clashes 5 4 0;rivals 2 6 3 5;rivals 2 6 3 201;near 1 3;"
+                + "near 0 1;gap 0 1;gap 0 9;nearest 0;nearest 9;parting;like 0 -1 -1 -1;like 243 0 0 0;counts 0 0 9;counts 0 3 9;"
+                + "share 9 0 999 0;share 9 2 999 1;share 9 3 0 0;region 9 999;region 10 0;fault;status;end 3;end 4;feed 0 0 0 0 0";
+        Hand asked = new Hand();
+        Scene.furnish(asked);
+        asked.back(1);
+        for (String call : calls.split(";")) {
+            leaves(asked, call);
+        }
+        Hand none = Hand.with("00000/00000", "22222/22222");
+        none.variant(0, 0);
+        none.variant(0, 1);
+        for (int region = 0; region < 3; region++) {
+            none.use(0, 0, region, 1);
+        }
+        none.used(0, 0, 1, 0);
+        none.weight(0, 20);
+        seen(none, 0, 0, 121, 242, 242);
+        none.prices(0, 1);
+        none.read(0, 4, 0);
+        Due.due("a slide", none.led(2, 1), NONE);
+        none.back(0);
+        for (String call : new String[] {"share 0 0 0 0", "share 0 0 0 1", "region 0 0", "led 2 1", "rivals 3 3 0 0", "near 0 1"}) {
+            Due.due("none of " + call, none.call(call.split(" ")[0], numbers(call)), NONE);
+            leaves(none, call);
+        }
         Hand h = ready();
         h.back(1);
         h.lay(" ".repeat(400));
@@ -431,6 +459,27 @@ public final class HouseBoundsTest {
         Due.due("leaves it", h.status(), -2);
         Due.due("an end that can't be", h.end(401), NONE);
         Due.due("leaves it", h.status(), -2);
+    }
+
+    private static void seen(Hand h, int... shapes) {
+        for (int frame = 0; frame < shapes.length; frame++) {
+            h.sight(0, frame, shapes[frame], NONE, NONE, NONE, 0);
+        }
+    }
+
+    private static int[] numbers(String call) {
+        String[] words = call.split(" ");
+        int[] numbers = new int[words.length - 1];
+        for (int i = 0; i < numbers.length; i++) {
+            numbers[i] = Integer.parseInt(words[i + 1]);
+        }
+        return numbers;
+    }
+
+    /** A call told as its name and its numbers, behind a call that was refused by -2. */
+    private static void leaves(Hand h, String call) {
+        h.call(call.split(" ")[0], numbers(call));
+        Due.due("status behind " + call, h.status(), -2);
     }
 
     /** An answer of 0 or more is no refusal, and each refusal is told as it is. */

@@ -20,6 +20,7 @@ public final class ReadingBoundsTest {
         costRefused();
         bestTies();
         surfacesInRows();
+        surfacesAlike();
         bestOfCosts();
         ledCosts();
         noReading();
@@ -548,6 +549,24 @@ public final class ReadingBoundsTest {
         Due.due("two signs in three frames", h.cost(0, 1, NONE, 0, 2, 0), 2);
         Due.due("three in four", h.cost(0, 1, 2, 0, 3, 0), 3);
         Due.due("not three in three", h.cost(0, 1, 2, 0, 2, 0), -6);
+    }
+
+    /** A surface may be alike another sign's states; each stands for its own sign all the same. */
+    private static void surfacesAlike() {
+        Due.sentence("how many rows have a COST of no more than that and n");
+        for (int turned = 0; turned < 2; turned++) {
+            Hand h = Hand.with("00000p" + (1 + turned), "00000p" + (2 - turned), "22222p3");
+            h.place(1, 9, 9);
+            h.place(2, 0, 3);
+            h.rules("if end shape=242 and begin place=2 do set begin place 1");
+            h.sight(0, 0, 242, 3, NONE, NONE, 0);
+            h.sight(0, 1, 0, 1, NONE, NONE, 0);
+            Due.due("the least", h.read(0, 1, 0), 2);
+            Due.due("the first of two rows", h.best(0) * 10 + h.best(1), 20);
+            Due.due("both rows", h.rivals(0, 1, 0, 0), 2);
+            Due.due("cost of the one", h.cost(2, 0, NONE, 0, 1, 0), 2);
+            Due.due("cost of the other", h.cost(2, 1, NONE, 0, 1, 0), 2);
+        }
     }
 
     private static Hand seams(String rules, int... shapes) {

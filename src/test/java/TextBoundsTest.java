@@ -143,6 +143,7 @@ public final class TextBoundsTest {
         Due.due("end(380)", h.end(380), 380);
         Due.due("what was there stays", h.sign(), 0);
         Due.due("its shape", h.mark(0, 0, 0), 5);
+        Scene.same("feed refused", Scene::fill, one -> one.feed(-1, 0, 1, Hand.LEAST, Hand.MOST), one -> { });
     }
 
     private static void bytesInOrder() {
