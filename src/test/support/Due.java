@@ -1,13 +1,16 @@
 import java.io.IOException;
 import java.nio.file.Files;
 import java.nio.file.Path;
+import java.util.HashMap;
+import java.util.Map;
 
-/** Counts what is due and what is not as due, under the sentence of the document that asks for it. */
+/** Counts what is due and what is not as due, under the sentence of the document or the readme that asks for it. */
 final class Due {
     private static final Path DOCUMENT = Path.of("../shared/DOC.md");
+    private static final Path README = Path.of("README.md");
     private static final int MOST_TOLD = 40;
 
-    private static String document;
+    private static final Map<Path, String> PAGES = new HashMap<>();
     private static String sentence = "";
     private static int made;
     private static int madeBefore;
@@ -18,13 +21,20 @@ final class Due {
 
     /** What follows is due by these words, which must stand in the document. */
     static void sentence(String words) {
+        open(words, DOCUMENT);
+    }
+
+    /** What follows is due by these words, which must stand in the readme. */
+    static void told(String words) {
+        open(words, README);
+    }
+
+    private static void open(String words, Path page) {
         closeSentence();
         sentence = words;
-        if (document == null) {
-            document = read();
-        }
-        if (!document.isEmpty() && !document.contains(words)) {
-            fail("these words do not stand in the document");
+        String all = PAGES.computeIfAbsent(page, Due::read);
+        if (!all.isEmpty() && !all.contains(words)) {
+            fail("these words do not stand in " + page);
         }
     }
 
@@ -35,9 +45,9 @@ final class Due {
         madeBefore = made;
     }
 
-    private static String read() {
+    private static String read(Path page) {
         try {
-            return Files.exists(DOCUMENT) ? Files.readString(DOCUMENT).replaceAll("\\s+", " ") : "";
+            return Files.exists(page) ? Files.readString(page).replaceAll("\\s+", " ") : "";
         } catch (IOException e) {
             throw new IllegalStateException(e);
         }
