@@ -31,6 +31,7 @@ public final class LanguageTest {
         imports(source);
         lengths(bare(source));
         face();
+        faceOfDocument(source);
         classes();
         System.out.println("LanguageTest: " + wrong + " wrong");
         if (wrong != 0) {
@@ -135,6 +136,32 @@ public final class LanguageTest {
         int modifiers = HandTongue.class.getModifiers();
         if (!Modifier.isPublic(modifiers) || !Modifier.isFinal(modifiers)) {
             fail("the class is public and final");
+        }
+    }
+
+    /** Each line of the document's face stands in the source, but for the bodies of the methods. */
+    private static void faceOfDocument(String source) throws IOException {
+        Path document = Path.of("../shared/DOC.md");
+        if (!Files.exists(document)) {
+            return;
+        }
+        String text = Files.readString(document);
+        int from = text.indexOf("public final class HandTongue {");
+        int to = text.indexOf("```", from);
+        if (from < 0 || to < 0) {
+            fail("no face was found in the document");
+            return;
+        }
+        int lines = 0;
+        for (String line : text.substring(from, to).split("\n")) {
+            String due = line.endsWith(");") ? line.substring(0, line.length() - 1) + " {" : line;
+            if (!(source + "\n").contains("\n" + due + "\n")) {
+                fail("of the document's face is missing: " + line);
+            }
+            lines++;
+        }
+        if (lines != 40) {
+            fail("the document's face has " + lines + " lines");
         }
     }
 

@@ -1,5 +1,6 @@
 import java.math.BigInteger;
 import java.util.ArrayList;
+import java.util.Arrays;
 import java.util.List;
 import java.util.Random;
 
@@ -10,15 +11,16 @@ public final class OracleTest {
     private static int calls = 0;
     private static int rowChecks = 0;
     private static int faults = 0;
+    private static int longRivals = 0;
 
     public static void main(String[] args) {
         int runs = args.length > 0 ? Integer.parseInt(args[0]) : 260;
         for (int seed = 1; seed <= runs && wrong < 10; seed++) {
             new Run(seed).go();
         }
-        System.out.println("OracleTest: " + calls + " calls, " + rowChecks + " readings, " + faults + " faults in texts, "
-                + wrong + " wrong");
-        if (wrong != 0 || calls == 0 || rowChecks == 0 || faults == 0) {
+        System.out.println("OracleTest: " + calls + " calls, " + rowChecks + " readings, " + longRivals + " rivals of many rows, "
+                + faults + " faults in texts, " + wrong + " wrong");
+        if (wrong != 0 || calls == 0 || rowChecks == 0 || longRivals == 0 || faults == 0) {
             System.exit(1);
         }
     }
@@ -830,7 +832,7 @@ public final class OracleTest {
             return bestLed[frame - bestFrom][what];
         }
 
-        /** Only for rows that are few enough to try. */
+        /** Only for rows that are few enough to try; else rivalsOfMany. */
         int rivals(int from, int to, int known, int n) {
             if (!span(from, to, known) || !in(n, 0, 200) || now.signs.isEmpty()) {
                 return NONE;
@@ -845,6 +847,108 @@ public final class OracleTest {
                 count += cost <= leastCost + n ? 1 : 0;
             }
             return Math.min(count, 1000);
+        }
+
+        static final int MOST_STEPS = 1500;
+        static final int UNKNOWN = -99;
+        int steps;
+        int within;
+
+        /** Rows that are too many to try grow sign by sign while they may stay within; UNKNOWN if those are too many too. */
+        int rivalsOfMany(int from, int to, int known, int n) {
+            if (!span(from, to, known) || !in(n, 0, 200) || now.signs.isEmpty()) {
+                return NONE;
+            }
+            int[][] seen = look(from, to, known);
+            if (find(seen) < 0) {
+                return NONE;
+            }
+            steps = 0;
+            within = 0;
+            int[] floor = floors(seen);
+            for (int s = 0; s < now.signs.size(); s++) {
+                grow(new int[] {s}, seen, floor, leastCost + n);
+            }
+            return within >= 1000 ? 1000 : steps > MOST_STEPS ? UNKNOWN : within;
+        }
+
+        /** What the frames from each one on cost at least, whatever they are led to. */
+        int[] floors(int[][] seen) {
+            List<int[]> states = new ArrayList<>();
+            for (int a = NONE; a < now.signs.size(); a++) {
+                for (int b = 0; b < now.signs.size(); b++) {
+                    for (int c = NONE; c < now.signs.size(); c++) {
+                        states.addAll(raise(a, b, c));
+                    }
+                }
+            }
+            int[] floor = new int[seen.length + 1];
+            for (int f = seen.length - 1; f >= 0; f--) {
+                int least = now.slide;
+                for (int[] state : states) {
+                    least = Math.min(least, match(seen[f], state));
+                }
+                floor[f] = floor[f + 1] + least;
+            }
+            return floor;
+        }
+
+        void grow(int[] row, int[][] seen, int[] floor, int most) {
+            steps++;
+            if (steps > MOST_STEPS || within >= 1000) {
+                return;
+            }
+            int[] begins = begins(row, seen);
+            boolean mayBe = false;
+            for (int f = 0; f < seen.length; f++) {
+                mayBe |= begins[f] >= 0 && begins[f] + floor[f] <= most;
+            }
+            if (!mayBe) {
+                return;
+            }
+            int cost = rowCost(row, seen, false);
+            within += cost >= 0 && cost <= most ? 1 : 0;
+            for (int s = 0; s < now.signs.size(); s++) {
+                int[] longer = Arrays.copyOf(row, row.length + 1);
+                longer[row.length] = s;
+                grow(longer, seen, floor, most);
+            }
+        }
+
+        /** For each frame what it costs at least that the last sign of a row begins there; -1 if it can't. */
+        int[] begins(int[] row, int[][] seen) {
+            int[] begins = new int[seen.length];
+            Arrays.fill(begins, -1);
+            begins[0] = now.price;
+            for (int i = 0; i + 1 < row.length; i++) {
+                List<int[]> states = raise(i == 0 ? NONE : row[i - 1], row[i], row[i + 1]);
+                int[] next = new int[seen.length];
+                Arrays.fill(next, -1);
+                for (int f = 0; f < seen.length; f++) {
+                    if (begins[f] >= 0) {
+                        spread(states, 0, f, begins[f], seen, next);
+                    }
+                }
+                begins = next;
+            }
+            return begins;
+        }
+
+        /** A state takes one frame after another; behind each the next state, or slides and the next sign. */
+        void spread(List<int[]> states, int state, int from, int spent, int[][] seen, int[] next) {
+            int sum = spent;
+            for (int f = from; f < seen.length; f++) {
+                sum += match(seen[f], states.get(state));
+                if (state + 1 < states.size()) {
+                    spread(states, state + 1, f + 1, sum, seen, next);
+                    continue;
+                }
+                for (int slides = 0; slides <= 3 && f + 1 + slides < seen.length; slides++) {
+                    int all = sum + slides * now.slide + now.price;
+                    int at = f + 1 + slides;
+                    next[at] = next[at] < 0 ? all : Math.min(next[at], all);
+                }
+            }
         }
 
         int cost(int a, int b, int c, int from, int to, int known) {
@@ -1473,6 +1577,13 @@ public final class OracleTest {
             int n = n(random.nextBoolean() ? 6 : 201);
             if (Model.rowsOf(model.now.signs.size(), to - from + 1) <= 3000) {
                 due("rivals(" + n + ", " + span, hands.rivals(from, to, known, n), model.rivals(from, to, known, n));
+                return;
+            }
+            n = random.nextInt(8);
+            int many = model.rivalsOfMany(from, to, known, n);
+            if (many != Model.UNKNOWN) {
+                longRivals++;
+                due("rivals(" + n + ", " + span, hands.rivals(from, to, known, n), many);
             }
         }
 

@@ -38,6 +38,7 @@ public final class ReadmeTest {
         reading();
         refused();
         orderOfRefusals();
+        noSuch();
         faults();
         tests();
         Due.finish("ReadmeTest");
@@ -311,6 +312,29 @@ public final class ReadmeTest {
         Due.due("twice and no room", full.variant(3, 6), -4);
         full.lay("x");
         Due.due("no room and no text", full.sign(), -5);
+    }
+
+    private static void noSuch() {
+        Due.told("- -1: a number that can't be (but a sign that can't be is -2)");
+        Hand h = Hand.with("00000", "11111");
+        h.variant(0, 0);
+        h.variant(1, 1);
+        int[] signs = {2, 9, 10, -1, -2, 1000, Hand.MOST, Hand.LEAST};
+        for (int sign : signs) {
+            Due.due("variant of " + sign, h.variant(0, sign), -2);
+            Due.due("use of " + sign, h.use(0, sign, 0, 1), -2);
+            Due.due("used " + sign, h.used(0, 0, sign, 0), -2);
+            Due.due("cost of " + sign, h.cost(sign, 0, 0, 0, 5, 0), -2);
+        }
+        for (int k : new int[] {-1, 2, Hand.MOST, Hand.LEAST}) {
+            Due.due("image " + k, h.image(k), -1);
+            Due.due("back " + k, h.back(k), -1);
+        }
+        Due.told("- -2: there is no such sign, or the image was not kept; for `use` also a sign that is no variant of the concept");
+        Due.due("image 0", h.back(0), -2);
+        Due.due("image 1", h.back(1), -2);
+        Due.due("no variant there", h.use(0, 1, 0, 1), -2);
+        Due.due("a variant", h.use(1, 1, 0, 1), 0);
     }
 
     private static void faults() {
